@@ -7,6 +7,8 @@ public final class ActsTest {
         liftOfACalledLine();
         hangWhileWaitingOrSought();
         hangOfTheCaller();
+        hangBehindAnUnansweredCall();
+        hangWithAFinderUsedBefore();
         hangOfTheCalled();
         hangOfAParkedLine();
         dialQueues();
@@ -105,6 +107,47 @@ public final class ActsTest {
         D.due("line(1, 0)", x.line(1, 0), 0);
         D.due("line(1, 6)", x.line(1, 6), 6);
         D.due("connector(1, 0)", x.connector(1, 0), -6);
+    }
+
+    /** The line that did not answer is rung by another one meanwhile: this call is not the hung line's. */
+    private static void hangBehindAnUnansweredCall() {
+        RotaryExchange x = new RotaryExchange();
+        x.set(0, 100);
+        x.set(1, 3);
+        D.bringRinging(x, 5, 1);
+        D.waitFor(x, 5, RotaryExchange.BUSY);
+        D.bringRinging(x, 6, 1);
+        D.due("line(5, 3)", x.line(5, 3), -6);
+        D.due("hang(5)", x.hang(5), 8);
+        D.due("line(1, 0)", x.line(1, 0), 5);
+        D.due("line(1, 3)", x.line(1, 3), 6);
+        D.due("lift(1)", x.lift(1), 5);
+        x.tick(1);
+        D.due("line(6, 0)", x.line(6, 0), 6);
+        D.due("connector(1, 0)", x.connector(1, 0), 1);
+    }
+
+    /** The finder of the line that is hung rang the line 1 in an earlier call; now another finder does. */
+    private static void hangWithAFinderUsedBefore() {
+        RotaryExchange x = new RotaryExchange();
+        D.bringRinging(x, 5, 1);
+        x.hang(5);
+        D.bringRinging(x, 6, 1);
+        D.due("line(6, 2)", x.line(6, 2), 1);
+        x.lift(7);
+        x.tick(1);
+        D.due("line(7, 2)", x.line(7, 2), 0);
+        D.due("hang(7)", x.hang(7), 1);
+        D.due("line(1, 0)", x.line(1, 0), 5);
+        D.due("line(1, 2)", x.line(1, 2), 1);
+        x.lift(1);
+        x.tick(1);
+        x.lift(7);
+        x.tick(1);
+        D.due("line(7, 2)", x.line(7, 2), 0);
+        x.hang(7);
+        D.due("line(1, 0)", x.line(1, 0), 7);
+        D.due("trace(1, 2)", x.trace(1, 2), 6);
     }
 
     private static void hangOfTheCalled() {
