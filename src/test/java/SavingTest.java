@@ -12,26 +12,6 @@ public final class SavingTest {
         D.end();
     }
 
-    private static int[] everything(RotaryExchange x) {
-        java.util.ArrayList<Integer> all = new java.util.ArrayList<>();
-        for (int what = 0; what < 20; what++) {
-            if (what != 14) {
-                all.add(x.count(what));
-            }
-        }
-        for (int line = 0; line < 16; line++) {
-            for (int what = 0; what < 9; what++) {
-                all.add(x.line(line, what));
-            }
-        }
-        for (int finder = 0; finder < 4; finder++) {
-            for (int what = 0; what < 8; what++) {
-                all.add(x.finder(finder, what));
-            }
-        }
-        return all.stream().mapToInt(i -> i).toArray();
-    }
-
     private static void savesEverything() {
         RotaryExchange x = new RotaryExchange();
         x.setUp(4, 3);
@@ -43,17 +23,14 @@ public final class SavingTest {
         x.lift(0);
         x.tick(2);
         Due.put(x, "l7");
-        int[] before = everything(x);
+        int[] before = Due.everything(x);
         D.due("save(1)", x.save(1), before[0]);
         x.setUp(1, 1);
         x.set(2, 50);
         x.lift(5);
         x.tick(9);
         D.due("restore(1)", x.restore(1), before[0]);
-        int[] behind = everything(x);
-        for (int i = 0; i < before.length; i++) {
-            D.due("number " + i, behind[i], before[i]);
-        }
+        D.same("restore(1)", Due.everything(x), before);
         D.due("count(14)", x.count(14), 2);
         x.wipe();
         x.restore(1);
